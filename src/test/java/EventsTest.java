@@ -22,11 +22,14 @@ public final class EventsTest {
         commitNumbersStrings();
         commitNeedsRoom();
         commitLosesLongEvents();
+        commitPutsTheLongestEvent();
         commitLosesNewStrings();
         lostEventUsesNoString();
         flush();
         flushRotates();
         rotation();
+        fullestChunks();
+        evictedStringsAreForgotten();
         losses();
         buffered();
         count();
@@ -245,9 +248,9 @@ public final class EventsTest {
         check.in("promise 6, commit and settings");
         EventRecorder x = new EventRecorder(60, 4, 1);
         x.type(0, false);
-        x.record();
-        x.record();
-        x.record();
+        for (int k = 0; k < 4; k++) {
+            x.record();
+        }
         check.due("commit when all are new", Check.event(x, 0, 0), 2);
         Check.settings(x, 0, "0-");
         Check.settings(x, 1, "0+10");
@@ -390,6 +393,31 @@ public final class EventsTest {
         check.due("lost(0)", x.lost(0), 2);
     }
 
+    private static void commitPutsTheLongestEvent() {
+        check.in("promise 6, the longest event");
+        int[][] answers = {{23, 4}, {24, 0}};
+        for (int[] pair : answers) {
+            EventRecorder x = new EventRecorder(pair[0], 0, 1);
+            x.type(3, true);
+            x.start(x.record());
+            for (int k = 0; k < 40; k++) {
+                if (k == 20) {
+                    x.begin(0);
+                }
+                x.advance(1000);
+            }
+            check.due("commit with size " + pair[0], x.commit(0, 0, HIGH, LOW, HIGH), pair[1]);
+            check.due("count(5) with size " + pair[0], x.count(5), 1 - pair[1] / 4);
+            x.dump(0);
+            if (pair[1] == 0) {
+                check.output(x, 70, 2, 0, 1, 23, 0, 160, 156, 1, 160, 156, 1, 254, 255, 255, 255, 15,
+                    255, 255, 255, 255, 15, 254, 255, 255, 255, 15, 0, 0, 1, 0, 0);
+            } else {
+                check.output(x, 70, 2, 0, 0, 3, 63, 0, 1, 0, 0);
+            }
+        }
+    }
+
     private static void commitLosesNewStrings() {
         check.in("promise 6, the 25th string");
         EventRecorder x = new EventRecorder(60, 4, 1);
@@ -530,6 +558,59 @@ public final class EventsTest {
         check.due("count(3)", x.count(3), 2);
         check.due("count(4)", x.count(4), 1);
         check.due("the number of the oldest that is kept", x.output(1), 4);
+    }
+
+    private static void bigEvents(EventRecorder x, int thread, int many, int answer) {
+        for (int k = 0; k < many; k++) {
+            check.due("an event of 20 bytes", Check.event(x, thread, 3, HIGH, HIGH, HIGH), answer);
+        }
+    }
+
+    private static void fullestChunks() {
+        check.in("promise 14, the fullest chunks");
+        EventRecorder x = Check.running(60, 4, 5);
+        x.advance(200);
+        x.dump(0);
+        for (int chunk = 1; chunk <= 5; chunk++) {
+            for (int k = 0; k < 3; k++) {
+                bigEvents(x, 0, 2, 0);
+                check.due("an event of 10 bytes", Check.event(x, 0, 3, 8192), 0);
+            }
+            bigEvents(x, 0, 1, 0);
+            for (int k = 0; k < 3; k++) {
+                check.due("flush()", x.flush(), 50);
+            }
+            check.due("count(2)", x.count(2), 150);
+            bigEvents(x, 0, 14, 0);
+            bigEvents(x, 1, 3, 0);
+            bigEvents(x, 2, 3, 0);
+            check.due("count(0)", x.count(0), 4);
+            for (int thread = 0; thread < 3; thread++) {
+                bigEvents(x, thread, 1, 4);
+            }
+            check.due("dump(0)", x.dump(0), chunk * (5 + 570 + 12 + 2));
+            check.due("count(0) after it rotated", x.count(0), 0);
+        }
+        int[] end = {3, 63, 0, 1, 3, 63, 1, 1, 3, 63, 2, 1, 0, 0};
+        for (int k = 0; k < end.length; k++) {
+            check.due("byte " + k + " of the end", x.output(5 * 589 - end.length + k), end[k]);
+        }
+    }
+
+    private static void evictedStringsAreForgotten() {
+        check.in("terms, strings that are used in a chunk");
+        EventRecorder x = new EventRecorder(30, 1, 1);
+        x.type(0, true);
+        x.type(0, false);
+        x.start(x.record());
+        for (int k = 0; k < 4; k++) {
+            Check.eventWith(x, 0, 0, "" + (char) (97 + k));
+            x.dump(0);
+            check.output(x, 70, 2 + k, 0, 1, 4, 0, 0, 0, k, 0, 1, k, 1, 97 + k);
+        }
+        Check.event(x, 0, 1);
+        x.dump(0);
+        check.output(x, 70, 6, 0, 1, 3, 1, 0, 0, 0, 0);
     }
 
     private static void losses() {
