@@ -55,6 +55,18 @@ final class Check {
         due("output(-1)", x.output(-1), EventRecorder.NONE);
     }
 
+    /** A stretch of what was written out. */
+    void outputFrom(EventRecorder x, int from, int... want) {
+        for (int k = 0; k < want.length; k++) {
+            due("output(" + (from + k) + ")", x.output(from + k), want[k]);
+        }
+    }
+
+    /** Settings of a recording that is not closed are carried out only if no text stands before them. */
+    void noText(String call, EventRecorder x, int recording) {
+        due("the text after " + call + " is empty, profile()", profile(x, recording + ":0+"), 10);
+    }
+
     void report(String fault) {
         wrong++;
         System.out.println(place + ": " + fault);
@@ -95,6 +107,35 @@ final class Check {
     static int eventWith(EventRecorder x, int thread, int type, String characters) {
         text(x, characters);
         return event(x, thread, type);
+    }
+
+    static void events(EventRecorder x, int thread, int type, int many) {
+        for (int k = 0; k < many; k++) {
+            event(x, thread, type);
+        }
+    }
+
+    /** An event of 19 bytes, of a type with three ints, when NOW is below 128. */
+    static int bigEvent(EventRecorder x, int thread, int type) {
+        return event(x, thread, type, Integer.MAX_VALUE, Integer.MAX_VALUE, Integer.MAX_VALUE);
+    }
+
+    static int ticks(EventRecorder x, int thousands) {
+        int now = x.advance(0);
+        for (int k = 0; k < thousands; k++) {
+            now = x.advance(1000);
+        }
+        return now;
+    }
+
+    /** A recorder with one running recording; types 0 (string), 1 (three ints, string), 2 (neither). */
+    static EventRecorder withStrings(int size, int pool, int kept) {
+        EventRecorder x = new EventRecorder(size, pool, kept);
+        x.type(0, true);
+        x.type(3, true);
+        x.type(0, false);
+        x.start(x.record());
+        return x;
     }
 
     /** A recorder with one running recording and a type for each number of ints, without a string. */

@@ -7,9 +7,6 @@ public final class EventsTest {
 
     public static void main(String[] args) {
         newObject();
-        sizeIsKeptWithinBounds();
-        poolIsKeptWithinBounds();
-        keptIsKeptWithinBounds();
         write();
         advance();
         type();
@@ -56,54 +53,6 @@ public final class EventsTest {
         check.due("advance(0)", x.advance(0), 0);
         check.due("profile()", x.profile(), 1);
         check.due("flush()", x.flush(), 0);
-    }
-
-    private static void sizeIsKeptWithinBounds() {
-        check.in("promise 1, size");
-        int[][] sizes = {{LOW, 16}, {-1, 16}, {0, 16}, {15, 16}, {16, 16}, {17, 17}, {18, 18},
-            {59, 59}, {60, 60}, {61, 60}, {HIGH, 60}};
-        for (int[] pair : sizes) {
-            EventRecorder x = Check.running(pair[0], 0, 1);
-            // Events of 4 and 5 bytes can fill every size of 12 bytes or more to the last byte.
-            int fives = pair[1] % 4;
-            int fours = (pair[1] - 5 * fives) / 4;
-            for (int k = 0; k < fives; k++) {
-                check.due("an event of 5 bytes with size " + pair[0], Check.event(x, 0, 1), 0);
-            }
-            for (int k = 0; k < fours - 1; k++) {
-                check.due("an event of 4 bytes with size " + pair[0], Check.event(x, 0, 0), 0);
-            }
-            check.due("one that is a byte too long with size " + pair[0], Check.event(x, 0, 1), 4);
-            check.due("one that just fits with size " + pair[0], Check.event(x, 0, 0), 0);
-            check.due("buffered(0) with size " + pair[0], x.buffered(0), pair[1]);
-        }
-    }
-
-    private static void poolIsKeptWithinBounds() {
-        check.in("promise 1, pool");
-        int[][] pools = {{LOW, 0}, {-1, 0}, {0, 0}, {1, 1}, {2, 2}, {3, 3}, {4, 4}, {5, 4}, {HIGH, 4}};
-        for (int[] pair : pools) {
-            EventRecorder x = Check.running(16, pair[0], 1);
-            for (int k = 0; k < 4 * (pair[1] + 1); k++) {
-                check.due("an event with pool " + pair[0], Check.event(x, 0, 0), 0);
-            }
-            check.due("one more with pool " + pair[0], Check.event(x, 0, 0), 4);
-            check.due("count(0) with pool " + pair[0], x.count(0), pair[1]);
-        }
-    }
-
-    private static void keptIsKeptWithinBounds() {
-        check.in("promise 1, kept");
-        int[][] limits = {{LOW, 1}, {-1, 1}, {0, 1}, {1, 1}, {2, 2}, {3, 3}, {4, 4}, {5, 5}, {6, 5}, {HIGH, 5}};
-        for (int[] pair : limits) {
-            EventRecorder x = Check.running(16, 1, pair[0]);
-            for (int k = 1; k <= 8; k++) {
-                Check.event(x, 0, 0);
-                x.dump(0);
-                check.due("count(3) with kept " + pair[0], x.count(3), Math.min(k, pair[1]));
-                check.due("count(4) with kept " + pair[0], x.count(4), Math.max(0, k - pair[1]));
-            }
-        }
     }
 
     private static void write() {

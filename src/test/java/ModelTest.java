@@ -2,8 +2,12 @@ import java.util.Random;
 
 /** Runs of calls from fixed seeds: the program answers each as the plain model does. */
 public final class ModelTest {
-    private static final int RUNS = 3000;
+    private static final int RUNS = 6000;
+    // What an object answers later is free.
     private static final int CALLS = 512;
+    // No step makes more calls: the longest is a profile of four parts with three items each.
+    private static final int STEP = 120;
+    private static final int ALL_QUESTIONS = 90;
     private static final int[] EXTREMES = {Integer.MIN_VALUE, Integer.MAX_VALUE, -1, 0, 1, 63, 64, -64, -65,
         8191, 8192, -8192, -8193, 1 << 20, -(1 << 20) - 1, 1 << 27, 1 << 30, -(1 << 30) - 1};
     private static final Check check = new Check();
@@ -15,6 +19,7 @@ public final class ModelTest {
     private final int bigInts;
     private final int manyStrings;
     private final int flushes;
+    private final int readAtTheEnd;
     private int left = CALLS;
 
     private ModelTest(long seed) {
@@ -27,6 +32,7 @@ public final class ModelTest {
         bigInts = random.nextInt(4);
         manyStrings = random.nextInt(2);
         flushes = random.nextInt(4) == 0 ? 0 : 6;
+        readAtTheEnd = random.nextInt(3) * 120;
         check.in("seed " + seed + ", new EventRecorder(" + size + ", " + pool + ", " + kept + ")");
     }
 
@@ -44,7 +50,7 @@ public final class ModelTest {
         for (int k = random.nextInt(3); k > 0; k--) {
             recordAndStart();
         }
-        while (left > 40) {
+        while (left > STEP + ALL_QUESTIONS + readAtTheEnd) {
             step();
         }
         compareAll();
@@ -137,16 +143,18 @@ public final class ModelTest {
 
     private void dump(int k) {
         same("dump(" + k + ")", thrown(() -> program.dump(k)), model.dump(k));
-        compareOutput();
+        int length = 0;
+        while (model.output(length) != EventRecorder.NONE) {
+            length++;
+        }
+        for (int reads = 0; reads < 5; reads++) {
+            output(random.nextInt(length + 1));
+        }
+        output(length);
     }
 
-    private void compareOutput() {
-        int k = 0;
-        while (model.output(k) != EventRecorder.NONE) {
-            check.due("output(" + k + ") after call " + (CALLS - left), program.output(k), model.output(k));
-            k++;
-        }
-        check.due("output(" + k + ") after call " + (CALLS - left), program.output(k), model.output(k));
+    private void output(int k) {
+        same("output(" + k + ")", program.output(k), model.output(k));
     }
 
     private void settings() {
@@ -199,23 +207,26 @@ public final class ModelTest {
             case 2 -> same("buffered(" + k + ")", program.buffered(k), model.buffered(k));
             case 3 -> same("count(" + k + ")", program.count(k), model.count(k));
             case 4 -> same("lost(" + k + ")", program.lost(k), model.lost(k));
-            default -> same("output(" + k + ")", program.output(k), model.output(k));
+            default -> output(k);
         }
     }
 
     private void compareAll() {
         for (int k = -1; k <= 6; k++) {
-            check.due("state(" + k + ") at the end", program.state(k), model.state(k));
-            check.due("buffered(" + k + ") at the end", program.buffered(k), model.buffered(k));
-            check.due("count(" + k + ") at the end", program.count(k), model.count(k));
-            check.due("lost(" + k + ") at the end", program.lost(k), model.lost(k));
-            for (int type = -1; type <= 6; type++) {
-                check.due("threshold(" + k + ", " + type + ") at the end",
-                    program.threshold(k, type), model.threshold(k, type));
-            }
+            same("state(" + k + ")", program.state(k), model.state(k));
+            same("buffered(" + k + ")", program.buffered(k), model.buffered(k));
+            same("count(" + k + ")", program.count(k), model.count(k));
+            same("lost(" + k + ")", program.lost(k), model.lost(k));
         }
         for (int k = 0; k < 4; k++) {
-            dump(k);
+            for (int type = -1; type <= 6; type++) {
+                same("threshold(" + k + ", " + type + ")", program.threshold(k, type), model.threshold(k, type));
+            }
+        }
+        dump(random.nextInt(4));
+        dump(random.nextInt(2));
+        for (int k = 0; left > 0 && model.output(k) != EventRecorder.NONE; k++) {
+            output(k);
         }
     }
 

@@ -13,6 +13,7 @@ public final class RecordingsTest {
         settingsThrow();
         profile();
         profileThatIsBad();
+        profileOfWhatIsNotSettings();
         profileOfClosed();
         start();
         stop();
@@ -98,13 +99,13 @@ public final class RecordingsTest {
 
     private static void settingsThatAreNone() {
         check.in("promise 9, texts that are not settings");
-        EventRecorder x = withTypes(3, 1);
-        Check.settings(x, 0, "0+3,1+4,2-5");
         for (String text : NOT_SETTINGS) {
+            EventRecorder x = withTypes(3, 1);
+            Check.settings(x, 0, "0+3,1+4,2-5");
             Check.text(x, text);
             check.badArgument("settings(0) of '" + text + "'", () -> x.settings(0));
             thresholds(x, 0, 3, 4, NONE);
-            check.due("profile() when '" + text + "' was taken", x.profile(), 1);
+            check.noText("settings(0) of '" + text + "'", x, 0);
         }
         EventRecorder none = withTypes(0, 1);
         Check.text(none, "0+");
@@ -117,19 +118,20 @@ public final class RecordingsTest {
         for (int recording : NO_RECORDING) {
             Check.text(x, "0+5");
             check.badArgument("settings(" + recording + ")", () -> x.settings(recording));
-            check.due("profile() when the text was taken", x.profile(), 1);
+            check.noText("settings(" + recording + ")", x, 0);
         }
         thresholds(x, 0, 0);
+        x.record();
         x.close(0);
         Check.text(x, "0+5");
         check.badState("settings(0) of a closed one", () -> x.settings(0));
         thresholds(x, 0, 0);
-        check.due("profile() when the text was taken", x.profile(), 1);
+        check.noText("settings(0) of a closed one", x, 1);
         Check.text(x, "0*");
         check.badArgument("settings(0) of a closed one that are none", () -> x.settings(0));
         check.badArgument("settings(0) of a closed one without text", () -> x.settings(0));
         Check.text(x, "0+5");
-        check.badArgument("settings(1)", () -> x.settings(1));
+        check.badArgument("settings(2)", () -> x.settings(2));
     }
 
     private static void profile() {
@@ -164,16 +166,23 @@ public final class RecordingsTest {
             check.due("profile() of '" + text + "'", Check.profile(x, text), 1);
             check.due("profile() of '" + text + "' amid others", Check.profile(x, "0:1+4|" + text + "|0:0+3"), 21);
         }
+        thresholds(x, 0, 3, 4, NONE);
+        check.due("profile() of |", Check.profile(x, "|"), 2);
+        check.due("profile() of |||", Check.profile(x, "|||"), 4);
+        check.due("profile() of 0:0+|", Check.profile(x, "0:0+|"), 11);
+        check.due("profile() of |0:0+", Check.profile(x, "|0:0+"), 11);
+    }
+
+    private static void profileOfWhatIsNotSettings() {
+        check.in("promise 10, parts with what is not settings");
+        EventRecorder x = withTypes(3, 1);
+        Check.settings(x, 0, "0+3,1+4,2-5");
         for (String text : NOT_SETTINGS) {
             if (text.indexOf('|') < 0) {
                 check.due("profile() of '0:" + text + "'", Check.profile(x, "0:" + text), 1);
             }
         }
         thresholds(x, 0, 3, 4, NONE);
-        check.due("profile() of |", Check.profile(x, "|"), 2);
-        check.due("profile() of |||", Check.profile(x, "|||"), 4);
-        check.due("profile() of 0:0+|", Check.profile(x, "0:0+|"), 11);
-        check.due("profile() of |0:0+", Check.profile(x, "|0:0+"), 11);
     }
 
     private static void profileOfClosed() {
