@@ -46,6 +46,7 @@ public final class TermsEdgeTest {
         rotationOpensFromNowOn();
         eventsOfAWrittenChunk();
         stringsOfAWrittenChunk();
+        fullestChunkWrittenOut();
         answerToWhatIsNotThere();
         check.end();
     }
@@ -783,6 +784,44 @@ public final class TermsEdgeTest {
         Check.eventWith(x, 0, 0, "b");
         x.dump(0);
         check.output(x, 70, 5, 0, 2, 4, 0, 0, 0, 23, 4, 0, 0, 0, 1, 0, 2, 1, 1, 'b', 23, 1, 'x');
+    }
+
+    /** An event of 20 bytes, or of 10; one of the first 24 has a string of its own, with 8 characters. */
+    private static void put(EventRecorder x, int thread, boolean big, int number) {
+        Check.text(x, "abcdefg" + (char) (65 + number % 24));
+        x.begin(thread);
+        check.due("event " + number, x.commit(thread, 1, big ? HIGH : 8192, big ? HIGH : 0, big ? LOW : 0), 0);
+    }
+
+    private static void fullestChunkWrittenOut() {
+        check.in("a chunk written out: one with all the bytes, losses and strings that it can have");
+        EventRecorder x = Check.withStrings(60, 4, 1);
+        int number = 0;
+        for (; number < 9; number++) {
+            put(x, 0, number % 3 < 2, number);
+        }
+        put(x, 0, true, number++);
+        for (int k = 0; k < 3; k++) {
+            check.due("flush()", x.flush(), 50);
+        }
+        for (; number < 24; number++) {
+            put(x, 0, true, number);
+        }
+        for (int k = 0; k < 30; k++) {
+            check.due("an event of 4 bytes", Check.event(x, 1 + k / 15, 2), 0);
+        }
+        for (int thread = 0; thread < 3; thread++) {
+            check.due("one that is lost", Check.event(x, thread, 1, HIGH, HIGH, HIGH), 4);
+        }
+        int bytes = 150 + (4 + 3) * 60;
+        check.due("dump(0)", x.dump(0), 4 + bytes + 3 * 4 + 2 + 24 * 10);
+        check.outputFrom(x, 4 + bytes, 3, 63, 0, 1, 3, 63, 1, 1, 3, 63, 2, 1, 0, 24);
+        for (int k = 0; k < 24; k++) {
+            check.due("number " + k, x.output(18 + bytes + 10 * k), k);
+            check.due("length " + k, x.output(19 + bytes + 10 * k), 8);
+            check.due("last character " + k, x.output(27 + bytes + 10 * k), 65 + k);
+        }
+        check.due("the byte behind the last", x.output(18 + bytes + 240), NONE);
     }
 
     private static void answerToWhatIsNotThere() {
