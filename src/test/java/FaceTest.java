@@ -1,7 +1,6 @@
 import java.io.IOException;
 import java.lang.management.ManagementFactory;
 import java.lang.reflect.Constructor;
-import java.lang.reflect.Field;
 import java.lang.reflect.Method;
 import java.lang.reflect.Modifier;
 import java.nio.file.Files;
@@ -11,7 +10,7 @@ import java.util.Random;
 import java.util.Set;
 import java.util.TreeSet;
 
-/** The public face, the rules of the language that can be seen from outside, and calls of every kind. */
+/** The public face, what a run allocates, and calls of every kind. */
 public final class FaceTest {
     private static final String ARGUMENT = "IllegalArgumentException";
     private static final String STATE = "IllegalStateException";
@@ -35,15 +34,12 @@ public final class FaceTest {
         "int buffered(int)",
         "int count(int)",
         "int lost(int)"};
-    private static final String[] NOT_IN_THE_SOURCE = {"package ", "->", "::", "finally", "synchronized",
-        "assert ", "getMessage", "Exact(", "@", "static {", "\" +", "+ \"", "System.out", "interface "};
     private static final int WILD_CALLS = 5000;
     private static final Check check = new Check();
 
     public static void main(String[] args) throws IOException {
         face();
-        classes();
-        source();
+        linesOfTheDocument();
         allocation();
         wildCalls();
         check.end();
@@ -88,41 +84,22 @@ public final class FaceTest {
         return line.toString();
     }
 
-    private static void classes() {
-        check.in("rules 1, 5 and 11");
-        Class<?>[] inside = EventRecorder.class.getDeclaredClasses();
-        check.yes("at most twelve classes", inside.length < 12);
-        for (Class<?> type : inside) {
-            int modifiers = type.getModifiers();
-            check.yes(type.getName() + " is static", Modifier.isStatic(modifiers) || type.isEnum() || type.isRecord());
-            check.no(type.getName() + " is public", Modifier.isPublic(modifiers) || Modifier.isProtected(modifiers));
-            fields(type);
-        }
-        fields(EventRecorder.class);
-    }
-
-    private static void fields(Class<?> type) {
-        int many = 0;
-        for (Field field : type.getDeclaredFields()) {
-            int modifiers = field.getModifiers();
-            boolean isNone = type == EventRecorder.class && field.getName().equals("NONE");
-            check.due(field + " is private", Modifier.isPrivate(modifiers) ? 1 : 0, isNone ? 0 : 1);
-            if (Modifier.isStatic(modifiers)) {
-                check.yes(field + " is final", Modifier.isFinal(modifiers));
-            } else {
-                many++;
+    /** The document's own lines stand in the source, with a body in the place of the last sign. */
+    private static void linesOfTheDocument() throws IOException {
+        check.in("the document's public face");
+        String source = Files.readString(Path.of("src/main/java/EventRecorder.java"));
+        int lines = 0;
+        for (String line : Files.readAllLines(Path.of("../shared/DOC.md"))) {
+            if (line.startsWith("public final class ") || line.startsWith("    public ")) {
+                lines++;
+                String due = line.endsWith(");") || line.contains(") throws ")
+                    ? line.substring(0, line.length() - 1) + " {" : line;
+                check.yes("'" + due + "' in the source", source.contains(due + "\n"));
             }
         }
-        check.yes("at most twenty fields in " + type.getName(), many <= 20);
-    }
-
-    private static void source() throws IOException {
-        check.in("the source");
-        String source = Files.readString(Path.of("src/main/java/EventRecorder.java"));
-        for (String words : NOT_IN_THE_SOURCE) {
-            check.no("'" + words + "' in the source", source.contains(words));
-        }
-        check.yes("'public static final int NONE = -1;'", source.contains("    public static final int NONE = -1;\n"));
+        // The class, its constant and its constructor stand there too.
+        check.due("lines of the public face", lines, FACE.length + 3);
+        check.due("NONE", EventRecorder.NONE, -1);
     }
 
     /** All calls of a run share one room, so a call that is made often must not make rows of its own. */
